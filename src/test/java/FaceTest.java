@@ -8,7 +8,7 @@ import java.util.TreeSet;
 import java.util.stream.Collectors;
 
 /** That the class has the face of the document, and no other member that is not private. */
-public final class FaceTest {
+public final class FaceTest extends Checks {
     private static final String[] FACE = {
         "int add(int,int,int) IllegalArgumentException,IllegalStateException",
         "int remove(int) IndexOutOfBoundsException",
@@ -40,40 +40,40 @@ public final class FaceTest {
 
     public static void main(String[] args) {
         Class<?> face = TheatreWall.class;
-        Checks.same("public and final", Modifier.PUBLIC | Modifier.FINAL, face.getModifiers());
+        same("public and final", Modifier.PUBLIC | Modifier.FINAL, face.getModifiers());
         Set<String> got = new TreeSet<>();
         Set<String> publicNames = new TreeSet<>();
         for (Method method : face.getDeclaredMethods()) {
             if (!Modifier.isPrivate(method.getModifiers())) {
                 got.add(written(method));
                 publicNames.add(method.getName());
-                Checks.same(method + " is public alone", Modifier.PUBLIC, method.getModifiers());
+                same(method + " is public alone", Modifier.PUBLIC, method.getModifiers());
             }
         }
-        Checks.same("the methods", new TreeSet<>(Arrays.asList(FACE)), got);
+        same("the methods", new TreeSet<>(Arrays.asList(FACE)), got);
         Set<String> fields = new TreeSet<>();
         for (Field field : face.getDeclaredFields()) {
             if (!Modifier.isPrivate(field.getModifiers())) {
                 fields.add(Modifier.toString(field.getModifiers()) + " " + field.getType() + " " + field.getName());
             }
         }
-        Checks.same("the constants", Set.of("public static final int NONE"), fields);
+        same("the constants", Set.of("public static final int NONE"), fields);
         Constructor<?>[] made = face.getDeclaredConstructors();
-        Checks.same("one constructor", 1, made.length);
-        Checks.same("the constructor", "public TheatreWall()", made[0].toString());
+        same("one constructor", 1, made.length);
+        same("the constructor", "public TheatreWall()", made[0].toString());
         for (Class<?> inner : face.getDeclaredClasses()) {
             int modifiers = inner.getModifiers();
-            Checks.same(inner + " is static and not public", true, Modifier.isStatic(modifiers)
+            same(inner + " is static and not public", true, Modifier.isStatic(modifiers)
                 && !Modifier.isPublic(modifiers) && !Modifier.isProtected(modifiers));
             for (Method method : inner.getDeclaredMethods()) {
-                Checks.same(method + " bears no public name", false, publicNames.contains(method.getName()));
+                same(method + " bears no public name", false, publicNames.contains(method.getName()));
             }
         }
         for (Method method : face.getDeclaredMethods()) {
             boolean isHidden = Modifier.isPrivate(method.getModifiers());
-            Checks.same(method + " bears no public name", false, isHidden && publicNames.contains(method.getName()));
+            same(method + " bears no public name", false, isHidden && publicNames.contains(method.getName()));
         }
-        Checks.end("FaceTest");
+        end("FaceTest");
     }
 
     private static String written(Method method) {

@@ -1,10 +1,5 @@
 /** For each promise of the document its ordinary inputs, its edges, and wrong inputs. */
-public final class PromisesTest {
-    private static final int NONE = TheatreWall.NONE;
-    private static final String ARGUMENT = Checks.ARGUMENT;
-    private static final String STATE = Checks.STATE;
-    private static final String INDEX = Checks.INDEX;
-
+public final class PromisesTest extends Checks {
     private PromisesTest() {
     }
 
@@ -36,44 +31,11 @@ public final class PromisesTest {
         promise23();
         promise24();
         promise25();
-        Checks.end("PromisesTest");
-    }
-
-    private static void due(String what, long due, Checks.Call call) {
-        Checks.answers(what, due, call);
-    }
-
-    private static void fails(String what, String due, TheatreWall wall, Checks.Call call) {
-        Checks.throwsIt(what, due, wall, call);
-    }
-
-    /** A wall of tasks of these lengths, that have no person and no hall. */
-    private static TheatreWall wallOf(int... lengths) {
-        TheatreWall wall = new TheatreWall();
-        for (int length : lengths) {
-            wall.add(length, NONE, NONE);
-        }
-        return wall;
-    }
-
-    /** A wall of tasks of these lengths, that all have the person 0. */
-    private static TheatreWall queueOf(int... lengths) {
-        TheatreWall wall = new TheatreWall();
-        for (int length : lengths) {
-            wall.add(length, 0, NONE);
-        }
-        return wall;
-    }
-
-    private static void begins(String what, TheatreWall wall, int... due) {
-        for (int task = 0; task < due.length; task++) {
-            int number = task;
-            due(what + ", begin of " + task, due[task], () -> wall.task(number, 6));
-        }
+        end("PromisesTest");
     }
 
     private static void promise01() {
-        Checks.same("NONE", -1, TheatreWall.NONE);
+        same("NONE", -1, TheatreWall.NONE);
         TheatreWall wall = new TheatreWall();
         for (int what = 0; what <= 8; what++) {
             int number = what;
@@ -330,10 +292,10 @@ public final class PromisesTest {
     private static void promise10() {
         TheatreWall wall = new TheatreWall();
         due("clear nothing", 0, wall::clearBuffer);
-        Checks.type(wall, "d1;d2");
+        type(wall, "d1;d2");
         due("clear", 5, wall::clearBuffer);
         due("clear again", 0, wall::clearBuffer);
-        Checks.type(wall, "d3");
+        type(wall, "d3");
         due("no error from before", 2, wall::firstError);
         due("add what came behind", 1, wall::addAll);
         due("its length", 3, () -> wall.task(0, 0));
@@ -342,7 +304,7 @@ public final class PromisesTest {
 
     private static void firstError(String text, int due) {
         TheatreWall wall = new TheatreWall();
-        Checks.type(wall, text);
+        type(wall, text);
         due("first error of " + text, due, wall::firstError);
         due("again first error of " + text, due, wall::firstError);
         due("all of it is there: " + text, text.length(), wall::clearBuffer);
@@ -368,7 +330,7 @@ public final class PromisesTest {
 
     private static void addFails(String text, String due, int... lengths) {
         TheatreWall wall = wallOf(lengths);
-        Checks.type(wall, text);
+        type(wall, text);
         fails("addAll of " + text, due, wall, wall::addAll);
         due("the buffer stays: " + text, text.length(), wall::clearBuffer);
         due("the tasks stay: " + text, lengths.length, () -> wall.count(0));
@@ -390,7 +352,7 @@ public final class PromisesTest {
 
         TheatreWall wall = wallOf(4, 4);
         wall.change(1, 3, 5);
-        Checks.type(wall, "d2p5h3nab;d9;d1p0nd;d3h0nace;d1na");
+        type(wall, "d2p5h3nab;d9;d1p0nd;d3h0nace;d1na");
         due("addAll", 7, wall::addAll);
         int[][] due = {{2, 5, 3, 0, 0b11}, {9, NONE, NONE, 0, 0}, {1, 0, NONE, 0, 0b1000},
             {3, NONE, 0, 0, 0b10101}, {1, NONE, NONE, 0, 1}};
@@ -404,13 +366,13 @@ public final class PromisesTest {
         begins("the added are laid", wall, 0, 5, 9, 0, 9, 11, 4);
         due("the buffer is cleared", 0, wall::clearBuffer);
         due("one call to undo", 4, () -> wall.count(8));
-        Checks.type(wall, "d7");
+        type(wall, "d7");
         due("undo them all", 3, wall::undo);
         due("none of them is left", 2, () -> wall.count(0));
         due("the buffer is not undone", 2, wall::firstError);
 
         TheatreWall full = new TheatreWall();
-        Checks.type(full, "d1;d1;d1;d1;d1;d1;d1;d1;d1;d1;d1;d1nabcdefghijk");
+        type(full, "d1;d1;d1;d1;d1;d1;d1;d1;d1;d1;d1;d1nabcdefghijk");
         due("twelve at once", 12, full::addAll);
         due("that needs all the others", 0b11111111111, () -> full.task(11, 4));
     }
@@ -435,13 +397,13 @@ public final class PromisesTest {
         due("length", 2, () -> wall.task(1, 0));
     }
 
-    private static void undoes(String what, TheatreWall wall, Checks.Call call) {
+    private static void undoes(String what, TheatreWall wall, Call call) {
         long before = wall.digest();
         int saved = wall.count(8);
-        Checks.outcome(call);
+        outcome(call);
         due(what + " saves one", saved + 1, () -> wall.count(8));
         due(what + " is undone", saved, wall::undo);
-        Checks.same("all is as before " + what, before, wall.digest());
+        same("all is as before " + what, before, wall.digest());
     }
 
     private static void savedStatesOfEachUndoable() {
@@ -449,7 +411,7 @@ public final class PromisesTest {
         wall.add(3, 1, 1);
         wall.add(2, 1, NONE);
         wall.need(1, 0, true);
-        Checks.type(wall, "d1");
+        type(wall, "d1");
         undoes("add", wall, () -> wall.add(2, 2, 2));
         undoes("remove", wall, () -> wall.remove(0));
         undoes("need", wall, () -> wall.need(1, 0, false));
@@ -686,7 +648,7 @@ public final class PromisesTest {
                 due("ifRule " + rule + " " + what, due[rule][what], () -> wall.ifRule(number, property));
             }
         }
-        Checks.same("ifRule changes nothing", before, wall.digest());
+        same("ifRule changes nothing", before, wall.digest());
         wall.rule(1);
         due("ifRule does not ask for the present one", 23, () -> wall.ifRule(0, 2));
         TheatreWall empty = new TheatreWall();
@@ -796,20 +758,20 @@ public final class PromisesTest {
 
     private static void promise24() {
         TheatreWall wall = new TheatreWall();
-        Checks.same("busyness of nothing", 0.0, wall.busyness());
+        same("busyness of nothing", 0.0, wall.busyness());
         wall.add(3, 0, NONE);
-        Checks.same("busyness of one", 1.0, wall.busyness());
+        same("busyness of one", 1.0, wall.busyness());
         wall.add(4, NONE, NONE);
         wall.add(9, NONE, 0);
         wall.borrow(0, 0, 7);
         wall.add(3, 0, NONE);
-        Checks.same("busyness of those that are laid", 10.0 / 6.0, wall.busyness());
+        same("busyness of those that are laid", 10.0 / 6.0, wall.busyness());
         wall.change(0, 3, 60);
-        Checks.same("busyness of few days", 10.0 / 63.0, wall.busyness());
+        same("busyness of few days", 10.0 / 63.0, wall.busyness());
         TheatreWall stuck = new TheatreWall();
         stuck.add(9, NONE, 0);
         stuck.borrow(0, 0, 7);
-        Checks.same("busyness of a stuck one", 0.0, stuck.busyness());
+        same("busyness of a stuck one", 0.0, stuck.busyness());
     }
 
     /** The digest as the document lists it, by the other calls. */
@@ -857,10 +819,10 @@ public final class PromisesTest {
     private static void promise25() {
         TheatreWall wall = new TheatreWall();
         due("digest of nothing", digestOf(wall, ""), wall::digest);
-        Checks.type(wall, "d3p1h2;d2~");
+        type(wall, "d3p1h2;d2~");
         due("digest of a text", digestOf(wall, "d3p1h2;d2~"), wall::digest);
         wall.clearBuffer();
-        Checks.type(wall, "d3p1h2;d4p1na;d2h2na;d9p5;d1h0;d5h0nc");
+        type(wall, "d3p1h2;d4p1na;d2h2na;d9p5;d1h0;d5h0nc");
         wall.addAll();
         wall.borrow(0, 2, 6);
         wall.rule(2);

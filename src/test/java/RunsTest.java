@@ -1,5 +1,5 @@
 /** Long runs of calls, the same ones each time, of TheatreWall and of PlainWall side by side. */
-public final class RunsTest {
+public final class RunsTest extends Checks {
     private static final int RUNS = 40;
     private static final int CALLS = 512;
     private static final int MOST_DIGESTS = 16;
@@ -15,14 +15,14 @@ public final class RunsTest {
     }
 
     public static void main(String[] args) {
-        for (int run = 0; run < RUNS && Checks.isAllRight(); run++) {
+        for (int run = 0; run < RUNS && isAllRight(); run++) {
             new RunsTest(run).play();
         }
-        Checks.end("RunsTest");
+        end("RunsTest");
     }
 
     private void play() {
-        for (int call = 0; call < CALLS && Checks.isAllRight(); call++) {
+        for (int call = 0; call < CALLS && isAllRight(); call++) {
             next(call);
         }
     }
@@ -46,8 +46,8 @@ public final class RunsTest {
         return near(0, Math.max(0, wall.count(0) - 1));
     }
 
-    private void same(String what, Checks.Call due, Checks.Call got) {
-        Checks.same("run " + run + ", " + what, Checks.outcome(due), Checks.outcome(got));
+    private void same(String what, Call due, Call got) {
+        same("run " + run + ", " + what, outcome(due), outcome(got));
     }
 
     private void next(int call) {
