@@ -109,6 +109,7 @@ public final class LooksEdgesTest extends Checks {
         TheatreWall hall = hallOf(1, 1);
         hall.borrow(0, 99, 99);
         properties("for the hall's first day; none of a stuck one", hall, 8, 99, 0);
+        due("the first one's days alone", 99, () -> hall.count(6));
         TheatreWall stuck = hallOf(2);
         stuck.borrow(0, 5, 5);
         stuck.add(1, NONE, NONE);
@@ -467,6 +468,24 @@ public final class LooksEdgesTest extends Checks {
         due("a full wall", digestOf(full, ""), full::digest);
         TheatreWall days = queueOf(9, 1, 1);
         due("day 9 counts", digestOf(days, ""), days::digest);
+
+        said("bestRule; worstSlip of 3;");
+        TheatreWall best = queueOf(3, 2);
+        best.add(9, 1, NONE);
+        best.need(2, 1, true);
+        due("the best rule is 2", 2, best::bestRule);
+        due("with a best rule", digestOf(best, ""), best::digest);
+        TheatreWall hall = hallOf(5);
+        hall.borrow(0, 0, 6);
+        hall.add(4, NONE, NONE);
+        due("by 2 days the first is laid", 0, () -> hall.worstSlip(2));
+        due("by 3 days it is stuck", 1, () -> hall.worstSlip(3));
+        due("not the worst slip of 2", digestOf(hall, ""), hall::digest);
+        TheatreWall late = wallOf(1, 1);
+        late.change(1, 3, 57);
+        due("by 3 days the last could", 1, () -> late.worstSlip(3));
+        due("by 4 days it could not", 0, () -> late.worstSlip(4));
+        due("not the worst slip of 4", digestOf(late, ""), late::digest);
     }
 
     private static void bitsInDigest() {

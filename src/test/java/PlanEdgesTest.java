@@ -102,6 +102,18 @@ public final class PlanEdgesTest extends Checks {
         due("its number in the hall", 2, () -> first.hallOn(3, 5));
         refused("the last number is free", INDEX, () -> removed(0), w -> w.task(2, 0));
 
+        TheatreWall between = new TheatreWall();
+        for (int task = 0; task < 6; task++) {
+            between.add(1 + task, task, NONE);
+        }
+        between.need(5, 0, true);
+        between.need(5, 1, true);
+        between.need(5, 2, true);
+        between.need(5, 4, true);
+        between.remove(2);
+        properties("persons behind the third", between, 1, 0, 1, 3, 4, 5);
+        properties("lengths behind the third", between, 0, 1, 2, 4, 5, 6);
+        properties("needs below and above the third", between, 4, 0, 0, 0, 0, 0b1011);
         TheatreWall middle = removed(1);
         properties("lengths behind the second", middle, 0, 1, 3);
         properties("needs behind the second", middle, 4, 0, 0b1);
@@ -390,6 +402,15 @@ public final class PlanEdgesTest extends Checks {
         begins("it follows one that is laid, and one that is not", wall, NONE, NONE, NONE, NONE, 0, NONE);
         wall.change(0, 0, 1);
         begins("not stuck any more", wall, 9, 10, 11, 12, 0, 13);
+
+        TheatreWall behind = queueOf(3, 2);
+        behind.change(1, 2, 1);
+        behind.add(1, 0, NONE);
+        behind.need(2, 1, true);
+        behind.borrow(1, 0, 0);
+        begins("those that are laid stay where they are when no more is ready", behind, 0, NONE, NONE);
+        due("laid once", 1, () -> behind.count(1));
+        due("the end", 3, () -> behind.count(3));
 
         TheatreWall away = new TheatreWall();
         away.add(3, 0, 0);
