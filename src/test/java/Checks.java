@@ -51,7 +51,7 @@ abstract class Checks {
         same("stands in the document", true, document().contains(quote));
     }
 
-    private static String document() {
+    static String document() {
         if (document == null) {
             try {
                 document = Files.readString(DOCUMENT);
